@@ -467,15 +467,16 @@ public final class CoverHouses {
         long letters = 0;
 
         Tape() {
-            int filled = 0;
-            for (int i = 0; i < KEYWORDS.length() && filled < KEYWORD_COUNT; i++) {
-                char sign = KEYWORDS.charAt(i);
-                if (sign == ' ') {
-                    filled++;
-                } else {
-                    keywords[filled] = pack(keywords[filled], sign);
-                }
+            // The keywords are read as any tape is, so that they are packed as its WORDS are.
+            for (int i = 0; i < KEYWORDS.length() && length < MOST_SIGNS; i++) {
+                signs[length] = KEYWORDS.charAt(i);
+                length++;
             }
+            for (int i = 0; i < KEYWORD_COUNT; i++) {
+                advance();
+                keywords[i] = letters;
+            }
+            length = 0;
         }
 
         void addBytes(long bytes) {
@@ -518,7 +519,7 @@ public final class CoverHouses {
         private void takeWord() {
             letters = 0;
             while (end < length && signs[end] >= 'a' && signs[end] <= 'z') {
-                letters = pack(letters, signs[end]);
+                letters = letters * 32 + (signs[end] - 'a' + 1);
                 end++;
             }
             kind = end - place > LONGEST_WORD ? BAD : NAME;
@@ -536,10 +537,6 @@ public final class CoverHouses {
                 end++;
             }
             kind = end - place > LONGEST_NUMBER ? BAD : NUMBER;
-        }
-
-        private static long pack(long packed, char letter) {
-            return packed * 32 + (letter - 'a' + 1);
         }
     }
 
