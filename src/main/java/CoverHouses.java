@@ -1474,14 +1474,15 @@ public final class CoverHouses {
             addDirect(happening);
             for (int i = 0; i < terms.treatyCount; i++) {
                 Treaty treaty = terms.treaties[i];
-                if (treaty.isLayer) {
-                    partsOweOwner(treaty, happening.use[i]);
-                    used[i] += happening.use[i];
+                happening.reinstated[i] = 0;
+                happening.premium[i] = 0;
+                int amount = treaty.isLayer ? happening.use[i] : happening.base[i];
+                if (amount > 0) {
+                    partsOweOwner(treaty, amount);
+                }
+                if (amount > 0 && treaty.isLayer) {
+                    used[i] += amount;
                     reinstate(happening, treaty, i);
-                } else {
-                    partsOweOwner(treaty, happening.base[i]);
-                    happening.reinstated[i] = 0;
-                    happening.premium[i] = 0;
                 }
             }
         }
