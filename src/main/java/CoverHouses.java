@@ -980,16 +980,15 @@ public final class CoverHouses {
 
         private boolean readValue(int depth) {
             int kind = tape.kind;
-            if (kind == Tape.NUMBER || isFact(kind)) {
-                draft.addCode(kind == Tape.NUMBER ? tape.number : -kind);
-                tape.advance();
-                return true;
-            }
-            if (kind != Tape.NOT && kind != Tape.OPEN) {
+            boolean isPlain = kind == Tape.NUMBER || isFact(kind);
+            if (!isPlain && kind != Tape.NOT && kind != Tape.OPEN) {
                 return fail(OUT_OF_PLACE);
             }
             if (depth >= DEEPEST) {
                 return fail(TOO_MANY);
+            }
+            if (isPlain) {
+                draft.addCode(kind == Tape.NUMBER ? tape.number : -kind);
             }
             tape.advance();
             if (kind == Tape.NOT) {
@@ -997,14 +996,7 @@ public final class CoverHouses {
                 draft.addCode(-kind);
                 return fine;
             }
-            if (!readChain(JOINING, depth + 1)) {
-                return false;
-            }
-            if (tape.kind != Tape.CLOSE) {
-                return fail(OUT_OF_PLACE);
-            }
-            tape.advance();
-            return true;
+            return isPlain || (readChain(JOINING, depth + 1) && take(Tape.CLOSE));
         }
 
         private static boolean isFact(int kind) {

@@ -13,6 +13,8 @@ final class PlainHouses {
     static final Set<String> KEYWORDS = new HashSet<>(Arrays.asList("house", "event", "hours", "miles",
             "share", "of", "own", "and", "when", "layer", "over", "again", "at", "to", "or", "cause", "day",
             "losses", "direct", "hit", "not"));
+    static final Set<String> VALUE_WORDS = new HashSet<>(Arrays.asList("cause", "day", "losses", "direct", "hit",
+            "not"));
 
     static final class Fault extends RuntimeException {
         private static final long serialVersionUID = 1L;
@@ -377,29 +379,29 @@ final class PlainHouses {
     }
 
     private Condition value(int depth) {
-        if (here().kind == 'n') {
-            int n = number(0, 999999);
-            return f -> n;
-        }
-        for (String fact : new String[] {"cause", "day", "losses", "direct", "hit"}) {
-            if (may(fact)) {
-                return f -> f.get(fact);
-            }
-        }
-        if (!is("not") && !is("(")) {
+        boolean word = here().kind == 'w' && VALUE_WORDS.contains(here().text);
+        if (here().kind != 'n' && !word && !is("(")) {
             throw fault(1);
         }
         if (depth == 4) {
             throw fault(5);
         }
+        if (here().kind == 'n') {
+            int n = number(0, 999999);
+            return f -> n;
+        }
         if (may("not")) {
             Condition a = value(depth + 1);
             return f -> a.worth(f) == 0 ? 1 : 0;
         }
-        need("(");
-        Condition e = either(depth + 1);
-        need(")");
-        return e;
+        if (may("(")) {
+            Condition e = either(depth + 1);
+            need(")");
+            return e;
+        }
+        String fact = here().text;
+        at++;
+        return f -> f.get(fact);
     }
 
     // ---- losses

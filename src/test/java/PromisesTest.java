@@ -257,14 +257,29 @@ public final class PromisesTest {
 
     private static void wordingDepth() {
         promise = 5;
-        told(THREE + "share s of a:1 to b when not not not not 1;");
-        told(THREE + "share s of a:1 to b when ((((1))))<((((2))));");
-        told(THREE + "share s of a:1 to b when (not(not 1))+(not(not hit));");
-        faultAtBar(5, THREE + "share s of a:1 to b when not not not not |not 1;");
-        faultAtBar(5, THREE + "share s of a:1 to b when ((((|(1)))));");
-        faultAtBar(5, THREE + "share s of a:1 to b when ((((1+|not 1))));");
-        faultAtBar(5, THREE + "share s of a:1 to b when not(not(|(1)));");
-        faultAtBar(1, THREE + "share s of a:1 to b when not not not not |;");
+        String when = THREE + "share s of a:1 to b when ";
+        told(when + "not not not 1;");
+        told(when + "(((1)))<(((2)));");
+        told(when + "(not(1))+(not(hit));");
+        told(when + "not(not hit) and (not(1)) or ((not 2));");
+        told(when + "not not not 1 + not not not 1 < not not not hit;");
+        String[] around = {"not not not not ", "((((", "not(not(", "(not(not ", "not not((", "((not not ",
+            "(((1)))+((((", "((1<(2+not ", "((1 and(0 or(", "not not(1=1)and(((("};
+        String[] values = {"1", "0", "999999", "cause", "day", "losses", "direct", "hit", "not 1", "not", "(1)", "("};
+        String[] others = {"", ")", ";", "<", "+", "-", "and", "or", "own", "a", "s", "z", "1234567", "!", "hits"};
+        for (String open : around) {
+            for (String value : values) {
+                faultAtBar(5, when + open + "|" + value);
+            }
+            for (String other : others) {
+                faultAtBar(1, when + open + "|" + other);
+            }
+        }
+        faultAtBar(5, when + "not not not not |not 1;");
+        faultAtBar(5, when + "((((|hit))));");
+        faultAtBar(5, when + "(((1+(|2))));");
+        faultAtBar(5, when + "1<2 or 3-not not not not |hit;");
+        faultAtBar(1, when + "(((1)|;");
     }
 
     private static void wordingLimits() {

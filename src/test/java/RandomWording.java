@@ -136,7 +136,9 @@ final class RandomWording {
     }
 
     private void value(int depth) {
-        int kind = random.nextInt(depth > 4 ? 8 : 11);
+        // Within four others any value is a fault, so that most conditions stay above that.
+        boolean deeper = depth < 3 || depth < 6 && once(20);
+        int kind = random.nextInt(deeper ? 11 : 8);
         if (kind < 3) {
             text.append(new int[] {0, 1, 2, 3, 5, 10, 100, 1000, 999999}[random.nextInt(9)]).append(' ');
         } else if (kind < 8) {
