@@ -1641,11 +1641,14 @@ public final class CoverHouses {
                 pays[i] = owes[i];
                 spare[i] = Math.max(0, purse[i] - reckoning.direct[i]);
             }
+            takeShares(houses);
             boolean changes = true;
             rounds = 0;
             while (rounds < MOST_CLEARING_ROUNDS && changes) {
                 rounds++;
                 changes = payRound(houses);
+                // Renewed behind the last round too, so that what each gets is of what all pay in the end.
+                takeShares(houses);
             }
             failures = 0;
             for (int i = 0; i < houses; i++) {
@@ -1663,13 +1666,18 @@ public final class CoverHouses {
             }
         }
 
-        private boolean payRound(int houses) {
+        /** What each gets of what all pay now. */
+        private void takeShares(int houses) {
             for (int i = 0; i < houses; i++) {
                 gets[i] = 0;
                 for (int j = 0; j < houses; j++) {
                     gets[i] += shareOf(j, i);
                 }
             }
+        }
+
+        /** What each pays by what it got of the round ahead; whether that is another sum for one of them. */
+        private boolean payRound(int houses) {
             boolean changes = false;
             for (int i = 0; i < houses; i++) {
                 int next = Math.min(owes[i], spare[i] + gets[i]);

@@ -760,27 +760,34 @@ final class PlainHouses {
             }
         }
         long[] paid = all.clone();
-        long[] gets = new long[houses];
         int round = 0;
         boolean changed = true;
         while (changed && round < 200) {
             round++;
-            gets = new long[houses];
             long[] next = new long[houses];
             for (int a = 0; a < houses; a++) {
-                for (int b = 0; b < houses; b++) {
-                    gets[a] += all[b] == 0 ? 0 : paid[b] * net[b][a] / all[b];
-                }
-                next[a] = Math.min(all[a], Math.max(0, purses[a] - state.direct[a]) + gets[a]);
+                next[a] = Math.min(all[a], Math.max(0, purses[a] - state.direct[a]) + partOfPaid(a, paid, net, all));
             }
             changed = !Arrays.equals(next, paid);
             paid = next;
+        }
+        long[] gets = new long[houses];
+        for (int a = 0; a < houses; a++) {
+            gets[a] = partOfPaid(a, paid, net, all);
         }
         long[] failed = new long[houses];
         for (int a = 0; a < houses; a++) {
             failed[a] = paid[a] < all[a] || purses[a] < state.direct[a] ? 1 : 0;
         }
         return new long[][] {all, paid, gets, failed, {round}};
+    }
+
+    private static long partOfPaid(int house, long[] paid, long[][] net, long[] all) {
+        long part = 0;
+        for (int other = 0; other < paid.length; other++) {
+            part += all[other] == 0 ? 0 : paid[other] * net[other][house] / all[other];
+        }
+        return part;
     }
 
     int clears(int house, int what) {

@@ -898,6 +898,12 @@ public final class PromisesTest {
         due("rounds", clears(x, 0, 4), 200);
         due("a loses one by every third round", clears(x, 0, 1), 100000 - 66);
         due("b, too", clears(x, 1, 1), 100000 - 67);
+        due("c, too", clears(x, 2, 1), 100000 - 66);
+        due("a gets what c pays behind the last round", clears(x, 0, 2), 100000 - 66);
+        due("b gets its part of what a pays behind it", clears(x, 1, 2), 100000 - 67);
+        due("c gets what b pays behind it", clears(x, 2, 2), 100000 - 67);
+        due("d gets nothing: 99934 * 1 / 100001, cut", clears(x, 3, 2), 0);
+        due("all three and none but they failed", x.count(8), 3);
     }
 
     private static void known() {
