@@ -1,0 +1,54 @@
+import java.io.IOException;
+import java.nio.charset.StandardCharsets;
+import java.nio.file.Files;
+import java.nio.file.Paths;
+import java.util.LinkedHashMap;
+import java.util.Map;
+
+/** ../shared/DOC.md, cut into the parts of its Terms and its promises; blanks and ends of lines are one blank each. */
+final class Doc {
+    private static final int PARTS_OF_TERMS = 6;
+    private static final int PROMISES = 27;
+
+    private final Map<String, String> sections = new LinkedHashMap<>();
+
+    private Doc(String text) {
+        for (int i = 1; i <= PARTS_OF_TERMS; i++) {
+            String from = i == 1 ? "## Terms " : "==== " + i + ". ";
+            String to = i == PARTS_OF_TERMS ? "The constants:" : "==== " + (i + 1) + ". ";
+            sections.put("Terms " + i, between(text, from, to));
+        }
+        for (int i = 1; i <= PROMISES; i++) {
+            String to = i == PROMISES ? "## Not promised" : "## Promise " + (i + 1) + ":";
+            String whole = between(text, "## Promise " + i + ":", to);
+            // The call itself stands between two ` and a colon.
+            sections.put("Promise " + i, whole.substring(whole.indexOf("`:") + 2).trim());
+        }
+    }
+
+    static Doc read() throws IOException {
+        byte[] bytes = Files.readAllBytes(Paths.get("../shared/DOC.md"));
+        return new Doc(plain(new String(bytes, StandardCharsets.UTF_8).replace("```text", "").replace("```", "")));
+    }
+
+    static String plain(String text) {
+        return text.replaceAll("\\s+", " ").trim();
+    }
+
+    private static String between(String text, String from, String to) {
+        int begin = text.indexOf(from);
+        int end = text.indexOf(to, begin);
+        if (begin < 0 || end < 0) {
+            throw new IllegalStateException("the document has no " + from + " .. " + to);
+        }
+        return text.substring(begin + from.length(), end).trim();
+    }
+
+    boolean says(String in, String text) {
+        return sections.containsKey(in) && sections.get(in).contains(plain(text));
+    }
+
+    Map<String, String> all() {
+        return sections;
+    }
+}
