@@ -24,7 +24,7 @@ public final class ExtremesTest {
             CoverHouses x = new CoverHouses();
             for (int i = 0; i < 400 && wrong < 5; i++) {
                 if (i % 100 == 0) {
-                    Signs.wording(x, new RandomWording(random).text());
+                    Signs.wording(x, new RandomWording(random, false).text());
                 }
                 Method m = face[random.nextInt(face.length)];
                 wrong += call(x, m, arguments(m, random)) ? 0 : 1;

@@ -105,6 +105,27 @@ public final class Promises19To27EdgesTest {
         Edges.due("bears 100", x.bears(1), 100);
     }
 
+    @Says(in = "Promise 20", text = "WORST of a HOUSE by k storms, as bits;")
+    static void wantsAndWorstOfTwelveHouses() {
+        StringBuilder text = new StringBuilder(Edges.houses(12));
+        for (int i = 0; i < 12; i++) {
+            text.append("layer q").append((char) ('a' + i)).append(" of h").append((char) ('a' + i)).append(":9 over 0 1000 to h")
+                    .append((char) ('a' + (i + 1) % 12)).append(" again 9 at 0 when losses<13;");
+        }
+        CoverHouses x = Edges.told(text.toString());
+        for (int i = 0; i < 12; i++) {
+            x.loss(i, 0, 0, 0, i % 6, 10 + i);
+        }
+        for (int house = 0; house < 12; house++) {
+            // All are 9 above what they pass on, and 9 come from the one ahead: each bears what it has.
+            Edges.due("worst of " + house, x.worst(house, 1), 1 << house % 6);
+            Edges.due("wants of " + house, x.wants(house), Edges.NONE);
+            Edges.due("bears of " + house, x.bears(house), 10 + house);
+        }
+        Edges.due("a 13th", x.wants(12), Edges.NONE);
+        Edges.due("the worst of a 13th", x.worst(12, 1), Edges.NONE);
+    }
+
     @Says(in = "Promise 20", text = "NONE: no such HOUSE, k.")
     static void worstRefusesAnotherHouseAndAnotherK() {
         CoverHouses x = layered();

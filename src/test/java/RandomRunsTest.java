@@ -5,15 +5,21 @@ import java.util.Random;
 public final class RandomRunsTest {
     private static final int THROWN = Integer.MIN_VALUE;
 
+    private static final int[] EDGES = {-1, 0, 1, 4, 5, 6, 11, 12, 60, 999, 1000, 1001, 99999, 100000, 100001, 999999, 1000000,
+        99999999, 100000000};
+
     private final Random random;
+    // Numbers at the ends of their ranges more often than within them.
+    private final boolean atEdges;
     private final CoverHouses fast = new CoverHouses();
     private final PlainHouses plain = new PlainHouses();
     private final StringBuilder log = new StringBuilder();
     private int calls = 0;
     private boolean agrees = true;
 
-    private RandomRunsTest(long seed) {
+    private RandomRunsTest(long seed, boolean atEdges) {
         random = new Random(seed);
+        this.atEdges = atEdges;
     }
 
     public static void main(String[] args) {
@@ -22,7 +28,7 @@ public final class RandomRunsTest {
         int wrong = 0;
         int calls = 0;
         for (long seed = from; seed < from + runs && wrong < 5; seed++) {
-            RandomRunsTest run = new RandomRunsTest(seed);
+            RandomRunsTest run = new RandomRunsTest(seed, seed % 2 == 0);
             run.go();
             calls += run.calls;
             if (!run.agrees) {
@@ -91,12 +97,12 @@ public final class RandomRunsTest {
                 break;
             }
             case 6: {
-                int n = once(3) ? pick(0, 1001) : pick(-1, 40);
+                int n = atEdges ? edgeOfDays() : once(3) ? pick(0, 1001) : pick(-1, 40);
                 check("days " + n, fast.days(n), plain.days(n));
                 break;
             }
             case 7: {
-                int day = once(2) ? plain.now : pick(-1, plain.now + 1);
+                int day = once(2) ? plain.now : atEdges ? edgeOfView() : pick(-1, plain.now + 1);
                 check("view " + day, fast.view(day) ? 1 : 0, plain.view(day) ? 1 : 0);
                 break;
             }
@@ -106,7 +112,7 @@ public final class RandomRunsTest {
             case 9:
                 if (once(3)) {
                     int treaty = pick(-1, 5);
-                    int sum = once(4) ? pick(-1, 1000000) : pick(0, 500);
+                    int sum = atEdges ? edge() : once(4) ? pick(-1, 1000000) : pick(0, 500);
                     check("commute " + treaty + " " + sum, fast.commute(treaty, sum) ? 1 : 0,
                             plain.commute(treaty, sum) ? 1 : 0);
                 } else {
@@ -116,21 +122,45 @@ public final class RandomRunsTest {
                 }
                 break;
             default: {
-                int n = once(5) ? pick(-1, 100000000) : pick(0, 5000);
+                int n = atEdges ? edge() : once(5) ? pick(-1, 100000000) : pick(0, 5000);
                 check("purse " + house + " " + n, fast.purse(house, n) ? 1 : 0, plain.purse(house, n) ? 1 : 0);
                 break;
             }
         }
     }
 
+    private int edge() {
+        return EDGES[random.nextInt(EDGES.length)];
+    }
+
+    private int edgeOfDays() {
+        int toTheYear = 364 - plain.now % 365;
+        return new int[] {0, 1, 1, toTheYear, toTheYear + 1, 364, 365, 1000, 1001, 9999 - plain.now, 10000 - plain.now,
+            -1}[random.nextInt(12)];
+    }
+
+    private int edgeOfView() {
+        int lastOfAYear = pick(1, 1 + plain.now / 365) * 365 - 1;
+        return new int[] {lastOfAYear - 1, lastOfAYear, lastOfAYear + 1, 0, -1, plain.now - 1, plain.now + 1}[random.nextInt(7)];
+    }
+
+    private int edgeOfHour() {
+        int day = Math.max(0, once(2) ? plain.now : Math.min(plain.now, pick(0, plain.now / 365 + 1) * 365 - pick(0, 1)));
+        int hour = day * 24 + (once(2) ? 23 : 0);
+        return once(10) ? hour + 24 : once(10) ? -1 : once(4) ? Math.max(0, hour - pick(166, 169)) : hour;
+    }
+
     private int amount() {
+        if (atEdges) {
+            return once(12) ? edge() : new int[] {0, 1, 2, 999, 1000, 1001, 99999, 100000}[random.nextInt(8)];
+        }
         return once(10) ? 0 : once(10) ? pick(-1, 100001) : once(5) ? pick(50000, 100000) : pick(1, 3000);
     }
 
     private void loss(int house) {
         int latest = plain.now * 24 + 23;
-        int hour = once(4) ? pick(-1, latest + 1) : Math.max(0, latest - pick(0, 300));
-        int place = once(20) ? pick(-1, 1000) : pick(0, 200);
+        int hour = atEdges ? edgeOfHour() : once(4) ? pick(-1, latest + 1) : Math.max(0, latest - pick(0, 300));
+        int place = atEdges && once(2) ? edge() : once(20) ? pick(-1, 1000) : pick(0, 200);
         int cause = once(20) ? pick(-1, 8) : pick(0, 1);
         int storm = once(20) ? pick(-1, 6) : pick(0, 5);
         int amount = amount();
@@ -157,7 +187,7 @@ public final class RandomRunsTest {
         int what = pick(-1, 5);
         int loss = pick(-1, plain.losses.size());
         int any = pick(-1, 12);
-        int year = once(10) ? pick(-1, 27) : pick(0, 5);
+        int year = once(10) ? pick(-1, 27) : pick(0, atEdges ? 27 : 5);
         int lag = pick(-1, 10);
         switch (random.nextInt(13)) {
             case 0:
@@ -273,7 +303,7 @@ public final class RandomRunsTest {
     // ---- wordings
 
     private void tellWording() {
-        String text = new RandomWording(random).text();
+        String text = new RandomWording(random, atEdges).text();
         if (once(3)) {
             text = spoil(text);
         }

@@ -3,12 +3,14 @@ import java.util.Random;
 /** A wording that mostly has no fault, with loops of treaties among few houses. */
 final class RandomWording {
     private final Random random;
+    private final boolean atEdges;
     private final StringBuilder text = new StringBuilder();
     private int houses = 0;
     private int treaties = 0;
 
-    RandomWording(Random random) {
+    RandomWording(Random random, boolean atEdges) {
         this.random = random;
+        this.atEdges = atEdges;
     }
 
     String text() {
@@ -39,6 +41,11 @@ final class RandomWording {
         return least + random.nextInt(most - least + 1);
     }
 
+    /** One of the ends, if ends are asked for. */
+    private int end(int least, int most, int within) {
+        return !atEdges || once(3) ? within : once(2) ? least : most;
+    }
+
     private boolean once(int in) {
         return random.nextInt(in) == 0;
     }
@@ -61,8 +68,8 @@ final class RandomWording {
 
     private void event() {
         text.append("event ").append(once(20) ? pick(0, 9) : pick(0, 3)).append("hours ")
-                .append(once(20) ? pick(0, 1001) : pick(1, 200)).append(" miles ")
-                .append(once(20) ? pick(0, 1001) : pick(0, 150)).append(";");
+                .append(end(1, 999, once(20) ? pick(0, 1001) : pick(1, 200))).append(" miles ")
+                .append(end(0, 999, once(20) ? pick(0, 1001) : pick(0, 150))).append(";");
     }
 
     private void treaty() {
@@ -72,12 +79,13 @@ final class RandomWording {
                 .append(treaties > 25 ? "x" : "").append(" of ").append(owner).append(once(4) ? " own:" : " : ");
         treaties++;
         if (layer) {
-            text.append(once(20) ? pick(0, 999999) : pick(1, 4000)).append(" over ")
-                    .append(once(20) ? pick(0, 999999) : pick(0, 1500)).append(' ');
+            text.append(end(1, 999999, once(20) ? pick(0, 999999) : pick(1, 4000))).append(" over ")
+                    .append(end(0, pick(99998, 100001), once(20) ? pick(0, 999999) : pick(0, 1500))).append(' ');
         }
         parts(owner);
         if (once(3) && (layer || once(30))) {
-            text.append(" again ").append(once(20) ? pick(0, 11) : pick(0, 3)).append(" at ").append(pick(0, 900));
+            text.append(" again ").append(end(0, 9, once(20) ? pick(0, 11) : pick(0, 3))).append(" at ")
+                    .append(end(0, 999999, pick(0, 900)));
         }
         if (once(3)) {
             text.append(" when ");
@@ -101,7 +109,8 @@ final class RandomWording {
                 }
             }
             used += to;
-            int share = once(50) ? pick(0, 1001) : i == 0 && once(4) ? 1000 : Math.min(room, pick(1, 900));
+            int share = once(50) ? pick(0, 1001) : i == 0 && once(4) ? 1000
+                    : end(1, room, Math.min(room, pick(1, 900)));
             room -= share;
             text.append(i == 0 ? "" : " and ").append(share).append(" to ").append(to);
             if (room <= 0) {

@@ -1,4 +1,7 @@
 import java.io.IOException;
+import java.util.ArrayList;
+import java.util.Arrays;
+import java.util.List;
 
 /** ==== 2: the TAPE, its TOKENS, the WORDING and its FAULTS. */
 public final class Terms2EdgesTest {
@@ -467,6 +470,16 @@ public final class Terms2EdgesTest {
         Edges.due("in the next wording it may be told again", Signs.wording(x, text.toString()), 0);
     }
 
+    @Says(in = IN, text = "each told once")
+    static void anEventsCauseIsToldOnceInEachOfManyWordings() {
+        CoverHouses x = new CoverHouses();
+        for (int i = 0; i < 4; i++) {
+            String text = "event 0 hours 1 miles 1;event 7 hours 1 miles 1;";
+            Edges.due("wording " + i, Signs.wording(x, text), 0);
+            Edges.due("with a FAULT", Signs.wording(x, text + "event 7 hours"), 6 + 16 * (text.length() + 6));
+        }
+    }
+
     @Says(in = IN, text = "hours 1 to 999")
     static void hoursAre1To999() {
         Edges.stands("event 0 hours 1 miles 1;");
@@ -704,6 +717,74 @@ public final class Terms2EdgesTest {
         Edges.faultAtBar(4, Edges.ABC + "layer l of a:1 over 1 |0 to a;");
     }
 
+    /** A statement of each kind, with all that may be left out. */
+    private static final String[] TOKENS = {"house", "a", ";", "house", "b", ";", "house", "c", ";", "event", "7", "hours", "5",
+        "miles", "5", ";", "share", "s", "of", "a", "own", ":", "1", "to", "b", "and", "1", "to", "c", "when", "not", "(", "1",
+        "<", "cause", "+", "2", "-", "day", "or", "hit", "=", "losses", "and", "direct", ")", ";", "layer", "l", "of", "b", "own",
+        ":", "100", "over", "0", "1000", "to", "a", "again", "1", "at", "5", "when", "1", ";"};
+
+    private static String head(int tokens) {
+        StringBuilder text = new StringBuilder();
+        for (int i = 0; i < tokens; i++) {
+            text.append(TOKENS[i]).append(' ');
+        }
+        return text.toString();
+    }
+
+    private static boolean beginsAStatement(int token) {
+        return token == 0 || TOKENS[token - 1].equals(";");
+    }
+
+    @Says(in = IN, text = "of the first token from the left that is wrong")
+    static void anyTokenInItsTurnMayBeTheFirstThatIsWrong() {
+        Edges.stands(head(TOKENS.length));
+        for (int i = 0; i < TOKENS.length; i++) {
+            String head = head(i);
+            if (beginsAStatement(i)) {
+                Edges.faultAtBar(1, head + "house zz;|!");
+                Edges.stands(head);
+            } else {
+                // A statement could go on there, and the second FAULT is not told.
+                Edges.faultAtBar(1, head + "|house zz;!");
+                Edges.faultAtBar(1, head + "|event 0 hours 1 miles 1;!");
+                Edges.faultAtBar(1, head + "|");
+            }
+            Edges.faultAtBar(1, head + "|!;house a;");
+            Edges.faultAtBar(1, head + "|abcdefghi");
+        }
+    }
+
+    private static String tail(int from) {
+        StringBuilder text = new StringBuilder();
+        for (int i = from; i < TOKENS.length; i++) {
+            text.append(' ').append(TOKENS[i]);
+        }
+        return text.toString();
+    }
+
+    private static void asReadPlainly(String text) {
+        PlainHouses plain = new PlainHouses();
+        for (int i = 0; i < text.length(); i += 24) {
+            long[] abc = Signs.packed(text, i);
+            plain.feed(abc[0], abc[1], abc[2]);
+        }
+        Edges.due(text, Signs.wording(new CoverHouses(), text), plain.wording());
+    }
+
+    @Says(in = IN, text = "of the first token from the left that is wrong the least:")
+    static void everyTokenAtEveryPlaceIsReadAsInThePlainReading() {
+        List<String> tokens = new ArrayList<>(PlainHouses.KEYWORDS);
+        tokens.addAll(Arrays.asList("(", ")", "<", "=", "+", "-", ":", ";", "0", "1", "10", "1000", "1001", "999999", "1000000",
+                "a", "b", "s", "z", "abcdefghi", "!"));
+        for (int i = 0; i <= TOKENS.length; i++) {
+            for (String token : tokens) {
+                asReadPlainly(head(i) + token + tail(i) + "!");
+                asReadPlainly(head(i) + token + tail(Math.min(i + 1, TOKENS.length)) + "!");
+            }
+            asReadPlainly(head(i) + tail(Math.min(i + 1, TOKENS.length)) + "!");
+        }
+    }
+
     @Says(in = IN, text = "that is wrong the least:")
     static void ofTwoKindsOfOneTokenTheLeastIsTold() {
         String twelve = Edges.houses(12);
@@ -817,6 +898,72 @@ public final class Terms2EdgesTest {
         Edges.due("treaties", x.count(1), 1);
         Edges.due("EVENTS", x.events(), 2);
         Edges.due("owed", x.owed(1, 0), 100);
+    }
+
+    private static final String[] WORDINGS = {
+        "house a;house b;house c;event 0 hours 2 miles 3;share s of a own:400 to b and 500 to c when 0;share t of a:900 to b;"
+            + "layer l of b:50 over 5 1000 to c again 2 at 90;",
+        "house a;house b;house c;house d;layer k of b own:70 over 1 600 to a and 300 to d again 1 at 33 when losses<3;"
+            + "share s of c:500 to d;share t of a:500 to c;",
+        "house x;house y;share q of x:300 to y;layer r of x:9 over 2 1000 to y;share z of y:100 to x;",
+        "house a;", "",
+        "house p;house q;house r;house s;event 3 hours 1 miles 0;event 0 hours 9 miles 9;layer l of p:30 over 0 1 to s;"
+            + "layer m of q own:40 over 0 999 to r when not(day=0);share n of p own:1000 to q;"};
+
+    private static void tellLosses(CoverHouses x) {
+        x.loss(0, 0, 0, 0, 0, 100);
+        x.loss(0, 4, 2, 0, 1, 60);
+        x.loss(1, 5, 3, 3, 2, 80);
+        x.loss(2, 30, 3, 3, 3, 45);
+        x.loss(1, 40, 9, 0, 4, 20);
+        x.purse(0, 120);
+        x.purse(1, 110);
+    }
+
+    @Says(in = IN, text = "A WORDING without a FAULT is in force, for all there is, in place of the one ahead;")
+    static void nothingIsLeftOfAnyWordingAhead() {
+        int n = WORDINGS.length;
+        for (int i = 0; i < n * n * n; i++) {
+            String last = WORDINGS[i % n];
+            CoverHouses alone = Edges.told(last, 3);
+            tellLosses(alone);
+            CoverHouses x = Edges.newOn(3);
+            tellLosses(x);
+            for (String ahead : new String[] {WORDINGS[i / n % n], WORDINGS[i / n / n]}) {
+                Signs.wording(x, ahead);
+                for (int treaty = 0; treaty < 3; treaty++) {
+                    x.commute(treaty, 500);
+                }
+                x.events();
+            }
+            Edges.due("the last of three", Signs.wording(x, last), 0);
+            Edges.need("it is as if it were the only one", Portrait.of(x).equals(Portrait.of(alone)));
+        }
+    }
+
+    @Says(in = IN, text = "A WORDING without a FAULT is in force, for all there is, in place of the one ahead;")
+    static void conditionsOfManyLongWordings() {
+        CoverHouses x = new CoverHouses();
+        x.loss(0, 0, 0, 0, 0, 100);
+        for (int i = 0; i < 6; i++) {
+            String sum = "0" + Edges.repeated("+1", 600) + "=" + (600 + i % 2);
+            Edges.due("wording " + i, Signs.wording(x, "house a;house b;share s of a:1000 to b when " + sum + ";"), 0);
+            Edges.due("paid " + i, x.gross(0, 1, 1), i % 2 == 0 ? 100 : 0);
+        }
+    }
+
+    @Says(in = IN, text = "treaties that were commuted are so no more.")
+    static void treatiesAreCommutedNoMoreInAnyLaterWording() {
+        String text = "house a;house b;share s of a:500 to b;";
+        CoverHouses x = Edges.told(text);
+        for (int i = 0; i < 5; i++) {
+            Edges.taken("commuted", x.commute(0, 7));
+            Edges.due("COMMUTED", x.count(7), 1);
+            Edges.due("a FAULT", Signs.wording(x, text + "!"), 1 + 16 * text.length());
+            Edges.due("COMMUTED still", x.count(7), 1);
+            Edges.due("the wording again", Signs.wording(x, text), 0);
+            Edges.due("COMMUTED no more", x.count(7), 0);
+        }
     }
 
     @Says(in = IN, text = "treaties that were commuted are so no more.")

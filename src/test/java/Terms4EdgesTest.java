@@ -311,6 +311,23 @@ public final class Terms4EdgesTest {
         Edges.due("in all", x.owed(1, 0), 999990);
     }
 
+    @Says(in = IN, text = "nor above what is left of it: limit * (1 + again) less its USES in the EVENTS ahead;")
+    static void anotherUseInAnEventAheadLeavesAnotherRest() {
+        CoverHouses x = apart("layer l of a:100 over 0 1000 to b;", 30, 90, 90);
+        int[] amounts = {30, 80, 0, 1, 100, 30};
+        int[] second = {70, 20, 90, 90, 0, 70};
+        for (int i = 0; i < amounts.length; i++) {
+            x.word(0, amounts[i]);
+            int event = x.eventOf(1);
+            Edges.due("USE of the one that was 90 all the time", x.treaty(event, 0, 1), second[i]);
+            Edges.due("of the third", x.treaty(event + 1, 0, 1), Math.min(90, 100 - amounts[i] - second[i]));
+        }
+        x.leave(0, true);
+        Edges.due("without the first", x.treaty(0, 0, 1), 90);
+        x.leave(0, false);
+        Edges.due("with it again", x.treaty(1, 0, 1), 70);
+    }
+
     @Says(in = IN, text = "each PART pays USE * N / 1000, cut.")
     static void eachPartOfALayerIsCut() {
         CoverHouses x = apart("layer l of a:1000 over 0 333 to b and 667 to c again 9 at 0;", 1, 2, 3, 1000);
@@ -509,6 +526,29 @@ public final class Terms4EdgesTest {
         Edges.due("owed", x.owed(0, 1), 0);
     }
 
+    @Says(in = IN, text = "REINSTATED of a layer is its USE in an EVENT")
+    static void withoutAUseNothingIsReinstatedWhateverWasSoFar() {
+        CoverHouses x = apart("layer l of a:100 over 10 1000 to b again 1 at 50 when hit=1;", 70);
+        for (int i = 0; i < 2; i++) {
+            Edges.due("REINSTATED", x.treaty(0, 0, 3), 60);
+            Edges.due("premium", x.treaty(0, 0, 4), 30);
+            x.word(0, 10);
+            Edges.due("no USE, nothing REINSTATED", x.treaty(0, 0, 3), 0);
+            Edges.due("no premium", x.treaty(0, 0, 4), 0);
+            x.word(0, 70);
+        }
+        x.loss(1, 0, 0, 0, 0, 1);
+        Edges.due("E is 0, nothing REINSTATED", x.treaty(0, 0, 3), 0);
+        Edges.due("no premium", x.treaty(0, 0, 4), 0);
+        x.word(1, 0);
+        Edges.due("E is 1 again", x.treaty(0, 0, 3), 60);
+        x.commute(0, 1);
+        Edges.due("commuted, nothing REINSTATED", x.treaty(0, 0, 3), 0);
+        Edges.due("no premium", x.treaty(0, 0, 4), 0);
+        Edges.due("a share", Signs.wording(x, Edges.ABC + "share s of a:1 to b;"), 0);
+        Edges.due("of a share nothing is REINSTATED", x.treaty(0, 0, 3), 0);
+    }
+
     @Says(in = IN, text = "for that its HOUSE owes its premium * REINSTATED / limit, cut")
     static void thePremiumIsCut() {
         CoverHouses x = apart("layer l of a:300 over 0 1000 to b again 1 at 100;", 1, 2, 3, 4, 299);
@@ -544,6 +584,25 @@ public final class Terms4EdgesTest {
         CoverHouses y = apart("layer l of a:100 over 0 1 to b again 9 at 999;", 100);
         Edges.due("a thousandth of 999", y.owed(0, 1), 0);
         Edges.due("the premium is told whole", y.treaty(0, 0, 4), 999);
+    }
+
+    @Says(in = IN, text = "of which each PART's HOUSE gets N / 1000, cut.")
+    static void allElevenOthersMayHaveAPartOfThePremium() {
+        StringBuilder text = new StringBuilder(Edges.houses(12) + "layer l of ha:100 over 0 90 to hb");
+        for (int i = 2; i < 12; i++) {
+            text.append(" and 91 to h").append((char) ('a' + i));
+        }
+        CoverHouses x = Edges.told(text + " again 1 at 1000;");
+        x.loss(0, 0, 0, 0, 0, 100);
+        Edges.due("the first PART", x.owed(1, 0), 9);
+        Edges.due("its part of the premium", x.owed(0, 1), 90);
+        for (int house = 2; house < 12; house++) {
+            Edges.due("PART " + house, x.owed(house, 0), 9);
+            Edges.due("its part of the premium", x.owed(0, house), 91);
+        }
+        x.commute(0, 1000);
+        Edges.due("the first PART of the sum", x.owed(1, 0), 90);
+        Edges.due("the last one", x.owed(11, 0), 91);
     }
 
     // ---- COMMUTED
