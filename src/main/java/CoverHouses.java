@@ -656,10 +656,10 @@ public final class CoverHouses {
         Treaty addTreaty(int house, boolean layer) {
             int number = treatyCount;
             int ahead = lastOf[house];
-            if (ahead == NONE) {
-                firstOf[house] = number;
-            } else {
+            if (ahead >= 0 && ahead < number) {
                 treaties[ahead].following = number;
+            } else {
+                firstOf[house] = number;
             }
             lastOf[house] = number;
             treatyCount++;
@@ -1106,7 +1106,7 @@ public final class CoverHouses {
         /** NONE if the LOSS was not told by that DAY. */
         int amountOn(int loss, int day) {
             int word = lastWord[loss];
-            for (int i = 0; i < MOST_WORDS && word != NONE; i++) {
+            for (int i = 0; i < MOST_WORDS && word >= 0 && word < words; i++) {
                 if (wordDay[word] <= day) {
                     return wordAmount[word];
                 }
@@ -1322,7 +1322,7 @@ public final class CoverHouses {
             int all = happening.gross[house];
             int own = happening.direct[house];
             int number = terms.firstOf[house];
-            for (int i = 0; i < MOST_TREATIES && number != NONE; i++) {
+            for (int i = 0; i < MOST_TREATIES && number >= 0 && number < terms.treatyCount; i++) {
                 Treaty treaty = terms.treaties[number];
                 if (happening.isPaying(number)) {
                     int base = treaty.isOwn ? own : all;
@@ -1501,27 +1501,27 @@ public final class CoverHouses {
             return burden;
         }
 
-        void addDirect(Happening happening) {
+        private void addDirect(Happening happening) {
             for (int i = 0; i < MOST_HOUSES; i++) {
                 direct[i] += happening.direct[i];
             }
         }
 
-        void partsOweOwner(Treaty treaty, int amount) {
+        private void partsOweOwner(Treaty treaty, int amount) {
             for (int i = 0; i < treaty.parts; i++) {
                 owes[treaty.partHouse[i] * MOST_HOUSES + treaty.owner]
                         += Rounds.partOf(amount, treaty.partShare[i]);
             }
         }
 
-        void ownerOwesParts(Treaty treaty, int amount) {
+        private void ownerOwesParts(Treaty treaty, int amount) {
             for (int i = 0; i < treaty.parts; i++) {
                 owes[treaty.owner * MOST_HOUSES + treaty.partHouse[i]]
                         += Rounds.partOf(amount, treaty.partShare[i]);
             }
         }
 
-        void addCommuted(Terms terms, int viewed) {
+        private void addCommuted(Terms terms, int viewed) {
             for (int i = 0; i < terms.treatyCount; i++) {
                 Treaty treaty = terms.treaties[i];
                 if (treaty.isCommutedBy(viewed)) {

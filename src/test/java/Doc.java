@@ -5,11 +5,11 @@ import java.nio.file.Paths;
 import java.util.LinkedHashMap;
 import java.util.Map;
 
-/** ../shared/DOC.md, cut into the parts of its Terms and its promises; blanks and ends of lines are one blank each. */
+/** ../shared/DOC.md, cut into its parts (but for its face: FaceTest); blanks and ends of lines are one blank each. */
 final class Doc {
     private static final int PARTS_OF_TERMS = 6;
     private static final int PROMISES = 27;
-
+    private static final String NOT_PROMISED = "## Not promised";
     private static final String PLACE = "../shared/DOC.md";
 
     private final Map<String, String> sections = new LinkedHashMap<>();
@@ -18,6 +18,9 @@ final class Doc {
     }
 
     private Doc(String text) {
+        sections.put("What it is", between(text, "## What it is ", "## The public face"));
+        sections.put("The constants", between(text, "The constants:", "## Promise 1:"));
+        sections.put("Not promised", text.substring(text.indexOf(NOT_PROMISED) + NOT_PROMISED.length()).trim());
         for (int i = 1; i <= PARTS_OF_TERMS; i++) {
             String from = i == 1 ? "## Terms " : "==== " + i + ". ";
             String to = i == PARTS_OF_TERMS ? "The constants:" : "==== " + (i + 1) + ". ";

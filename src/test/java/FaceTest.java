@@ -2,6 +2,7 @@ import java.io.IOException;
 import java.lang.reflect.Field;
 import java.lang.reflect.Method;
 import java.lang.reflect.Modifier;
+import java.nio.charset.StandardCharsets;
 import java.nio.file.Files;
 import java.nio.file.Paths;
 import java.util.Arrays;
@@ -13,6 +14,7 @@ import java.util.regex.Pattern;
 
 /** The public face is the document's and no more; the source keeps to rules of LANGUAGE.md that a text search can see. */
 public final class FaceTest {
+    private static final String DOCUMENT = "../shared/DOC.md";
     private static final String[] FACE = {
         "int days(int)", "boolean view(int)", "int feed(long,long,long)", "int wording()",
         "int loss(int,int,int,int,int,int)", "boolean word(int,int)", "boolean split(int,boolean)",
@@ -34,7 +36,11 @@ public final class FaceTest {
     public static void main(String[] args) throws IOException {
         face();
         members();
-        source(new String(Files.readAllBytes(Paths.get("src/main/java/CoverHouses.java"))));
+        String source = new String(Files.readAllBytes(Paths.get("src/main/java/CoverHouses.java")));
+        source(source);
+        if (Files.exists(Paths.get(DOCUMENT))) {
+            document(new String(Files.readAllBytes(Paths.get(DOCUMENT)), StandardCharsets.UTF_8), source);
+        }
         System.out.println("FaceTest: " + wrong + " wrong");
         if (wrong > 0) {
             System.exit(1);
@@ -69,6 +75,27 @@ public final class FaceTest {
                 need(m.getParameterCount() <= 7, m + " takes too many");
             }
         }
+    }
+
+    /** Each line of the document's face stands in the source, a body in place of its semicolon, and none else is public. */
+    private static void document(String text, String source) {
+        int from = text.indexOf("```java") + "```java".length();
+        Set<String> due = new TreeSet<>();
+        for (String line : text.substring(from, text.indexOf("```", from)).split("\n")) {
+            String told = line.trim();
+            if (told.startsWith("public") && !told.endsWith("{")) {
+                due.add(told.contains("=") ? told : told.replace(";", " {"));
+            } else {
+                need(source.contains(told), "the source has " + told);
+            }
+        }
+        Set<String> got = new TreeSet<>();
+        Matcher m = Pattern.compile("(?m)^ {4}(public .*)$").matcher(source);
+        while (m.find()) {
+            got.add(m.group(1));
+        }
+        need(due.size() == FACE.length + 2, "the document tells " + due.size() + " lines");
+        need(got.equals(due), "the public lines are " + got);
     }
 
     private static String signature(Method m) {

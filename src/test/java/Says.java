@@ -7,7 +7,7 @@ import java.lang.annotation.Target;
 @Retention(RetentionPolicy.RUNTIME)
 @Target(ElementType.METHOD)
 @interface Says {
-    /** Where it stands: "Terms 1" to "Terms 6", or "Promise 1" to "Promise 27". */
+    /** Where it stands: "What it is", "Terms 1" to "Terms 6", "The constants", "Promise 1" to "Promise 27", "Not promised". */
     String in();
 
     String text();

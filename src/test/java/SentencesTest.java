@@ -4,7 +4,7 @@ import java.lang.reflect.Method;
 import java.util.Arrays;
 import java.util.Map;
 
-/** Every word of the Terms and of the promises stands in a sentence that some test tells as its own. */
+/** Every word of the document (of its face: FaceTest) stands in a sentence that some test tells as its own. */
 public final class SentencesTest {
     private static final String TESTS = "src/test/java";
 
